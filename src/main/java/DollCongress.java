@@ -277,8 +277,7 @@ public final class DollCongress {
         if (what < 0 || what > 1) {
             return OUTSIDE;
         }
-        mixings.begin(now);
-        return what == 0 ? mixings.fewest(roll) : mixings.leastOpening(roll);
+        return what == 0 ? mixings.fewest(roll, now) : mixings.leastOpening(roll, now);
     }
 
     public int close(int n) {
@@ -1087,71 +1086,70 @@ public final class DollCongress {
         // Four bits a court: 8 dolls can't carry from one court's count into the next and come to 0.
         private static final int BITS_A_COURT = 4;
 
-        private final int[] place = new int[MOST_DOLLS];
+        private final int[] strays = new int[MOST_DOLLS];
         private final int[] moves = new int[MOST_DOLLS];
+        // By set of strays: what their going home takes from each court and adds to it; the most rings closed in it.
         private final int[] surplus = new int[1 << MOST_DOLLS];
         private final int[] rings = new int[1 << MOST_DOLLS];
+        private int count;
 
-        void begin(Scene scene) {
-            System.arraycopy(scene.at, 0, place, 0, MOST_DOLLS);
-        }
-
-        int fewest(Roll roll) {
-            int strays = gatherStrays(roll);
-            int all = (1 << strays) - 1;
+        int fewest(Roll roll, Scene scene) {
+            gatherStrays(roll, scene);
+            int all = (1 << count) - 1;
             surplus[0] = 0;
             rings[0] = 0;
             for (int set = 1; set <= all; set++) {
-                countRings(set, strays);
+                countRings(set);
             }
-            return surplus[all] == 0 ? strays - rings[all] : NONE;
+            return surplus[all] == 0 ? count - rings[all] : NONE;
         }
 
-        /** The least pair of dolls whose mixing begins a row of the fewest. */
-        int leastOpening(Roll roll) {
-            int due = fewest(roll) - 1;
-            if (due < 0) {
+        /** Any two dolls of a ring part it in two rings, so each ring of a best parting can be begun with. */
+        int leastOpening(Roll roll, Scene scene) {
+            if (fewest(roll, scene) <= 0) {
                 return NONE;
             }
-            for (int d = 0; d < roll.dolls; d++) {
-                for (int e = d + 1; e < roll.dolls; e++) {
-                    if (place[d] != place[e] && fewestBehind(roll, d, e) == due) {
-                        return 10 * d + e;
+            int all = (1 << count) - 1;
+            int least = NONE;
+            for (int set = 1; set <= all; set++) {
+                boolean isRing = surplus[set] == 0 && rings[set] == 1;
+                if (isRing && rings[all ^ set] + 1 == rings[all]) {
+                    int pair = leastPair(set);
+                    least = least == NONE ? pair : Math.min(least, pair);
+                }
+            }
+            return least;
+        }
+
+        private int leastPair(int set) {
+            int lesser = NONE;
+            for (int i = 0; i < count; i++) {
+                if (((set >> i) & 1) == 1) {
+                    if (lesser != NONE) {
+                        return 10 * lesser + strays[i];
                     }
+                    lesser = strays[i];
                 }
             }
             return NONE;
         }
 
-        private int fewestBehind(Roll roll, int d, int e) {
-            trade(d, e);
-            int count = fewest(roll);
-            trade(d, e);
-            return count;
-        }
-
-        private void trade(int d, int e) {
-            int c = place[d];
-            place[d] = place[e];
-            place[e] = c;
-        }
-
-        private int gatherStrays(Roll roll) {
-            int strays = 0;
+        private void gatherStrays(Roll roll, Scene scene) {
+            count = 0;
             for (int d = 0; d < roll.dolls; d++) {
-                if (place[d] != roll.home[d]) {
-                    moves[strays] = (1 << (BITS_A_COURT * place[d])) - (1 << (BITS_A_COURT * roll.home[d]));
-                    strays++;
+                if (scene.at[d] != roll.home[d]) {
+                    strays[count] = d;
+                    moves[count] = (1 << (BITS_A_COURT * scene.at[d])) - (1 << (BITS_A_COURT * roll.home[d]));
+                    count++;
                 }
             }
-            return strays;
         }
 
         /** The last doll taken into a set closes a ring if the set has no surplus then. */
-        private void countRings(int set, int strays) {
+        private void countRings(int set) {
             int most = 0;
             int sum = 0;
-            for (int i = 0; i < strays; i++) {
+            for (int i = 0; i < count; i++) {
                 if (((set >> i) & 1) == 1) {
                     int rest = set ^ (1 << i);
                     most = Math.max(most, rings[rest]);

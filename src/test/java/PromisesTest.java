@@ -103,6 +103,9 @@ public final class PromisesTest {
         due("3 quota stays", x.told(4), 5);
         due("3 votes stay", x.court(0, 0), 3);
         due("3 image stays", x.goBack(1), 1);
+        x.year(8);
+        x.post(0, 2);
+        due("3 can be undone", x.told(16), 2);
         due("3 dolls", Check.tell(x, FIVE), 5);
         due("3 years", x.told(5), 0);
         due("3 up", x.told(6), 31);
@@ -116,6 +119,14 @@ public final class PromisesTest {
         due("3 image 1 gone", x.goBack(1), NOT);
         due("3 signs", x.doll(0, 3), 5);
         due("3 warm", x.doll(1, 4), 0);
+        due("3 tears", x.doll(1, 6), 0);
+        due("3 told quota", Check.tell(x, "c1,1;q2;s9;"), 0);
+        due("3 all told again", Check.tell(x, "c1,1;q1;s8;"), 0);
+        due("3 the new pattern", x.told(3), 8);
+        due("3 the new quota", x.told(4), 1);
+        due("3 none told", Check.tell(x, "c5,5,5;"), 0);
+        due("3 pattern untold", x.told(3), 0);
+        due("3 quota untold", x.told(4), 8);
         x.seed(78);
         due("3 seed stays, no dolls", Check.tell(x, "c1,1;"), 0);
         due("3 seed", x.seed(0), 78);
@@ -236,6 +247,30 @@ public final class PromisesTest {
         due("7 power of none", Check.made("c1,1;q63;").court(0, 4), 0);
         due("7 dictator", Check.made("c9,1,1;").court(0, 4), 6);
         due("7 dummy", Check.made("c9,1,1;").court(1, 4), 0);
+        powerOfLikeCourts();
+        x = Check.made("c1,1;d1 0 0;d1 1 0;d0 0 0;d0 1 0;");
+        due("7 wood at two courts", x.told(9), 0);
+        x.lay(0, true);
+        due("7 wood laid back", x.court(0, 3), 1);
+        due("7 wood up", x.court(1, 3), 0);
+    }
+
+    /** Like courts share all orders alike, whatever QUOTA is, if they can come to it. */
+    private static void powerOfLikeCourts() {
+        StringBuilder text = new StringBuilder("c1");
+        int share = 1;
+        for (int courts = 2; courts <= 7; courts++) {
+            text.append(",1");
+            share *= courts - 1;
+            for (int quota = 1; quota <= courts; quota++) {
+                DollCongress x = Check.made(text + ";q" + quota + ";");
+                for (int c = 0; c < courts; c++) {
+                    due("7 power of " + c + " of " + courts + " by " + quota, x.court(c, 4), share);
+                }
+                due("5 least by " + quota, x.told(14), (1 << quota) - 1);
+                due("5 blocks by " + quota, x.told(13), (1 << (courts + 1 - quota)) - 1);
+            }
+        }
     }
 
     private static void post() {
@@ -325,6 +360,10 @@ public final class PromisesTest {
         x.lay(1, true);
         x.year(1);
         due("13 no tears laid back", x.doll(1, 6), 1);
+        x.lay(1, false);
+        x.year(1);
+        due("13 tears at 23", x.doll(1, 6), 2);
+        tearsAtTwenty();
         due("13 wax has no tears", Check.made("c1,1;d0 0 0;").doll(0, 6), 0);
         due("13 none", x.year(0), OUTSIDE);
         due("13 many", x.year(61), OUTSIDE);
@@ -332,6 +371,18 @@ public final class PromisesTest {
         due("13 no congress", new DollCongress().year(1), NOT);
         due("13 outside ahead of not", new DollCongress().year(0), OUTSIDE);
         yearsFull();
+    }
+
+    /** 18, laid back 17, up 20. */
+    private static void tearsAtTwenty() {
+        DollCongress x = Check.made("c1,1;d2 0 0;");
+        x.year(6);
+        x.lay(0, true);
+        x.year(1);
+        x.lay(0, false);
+        x.year(1);
+        due("13 warm by 20", x.doll(0, 4), 20);
+        due("13 tears at 20", x.doll(0, 6), 1);
     }
 
     private static void yearsFull() {
@@ -368,6 +419,37 @@ public final class PromisesTest {
         x.seed(9);
         due("14 without dolls", x.drift(60), 60);
         due("14 no draws without dolls", x.seed(0), 9);
+        driftDeeds();
+    }
+
+    /** One year from seeds whose first draws are each deed in turn, on the dolls that are told here. */
+    private static void driftDeeds() {
+        drifted("posted to where it is: court 0, doll 4", 37, 959475208, 31, 0, 0);
+        drifted("mixed: doll 0 with 2", 6, 704025629, 26, 5, 0);
+        drifted("mixed with itself: doll 2", 20, 819389955, 31, 0, 0);
+        drifted("laid back: doll 3", 1, 377401575, 23, 0, 0);
+        drifted("an audience", 7, 642666333, 31, 0, 1);
+        DollCongress x = Check.made(FIVE);
+        x.lay(1, true);
+        x.seed(4);
+        x.drift(1);
+        due("14 up again: doll 1", x.told(6), 31);
+        due("14 up ahead of the year", x.doll(1, 4), 3);
+        x = Check.made("c1,1;d0 0 0;");
+        x.seed(1);
+        x.drift(1);
+        due("14 a doll alone is drawn too", x.told(6), 0);
+    }
+
+    private static void drifted(String deed, int from, int to, int up, int rings, int audiences) {
+        DollCongress x = Check.made(FIVE);
+        x.seed(from);
+        due("14 a year, " + deed, x.drift(1), 1);
+        due("14 up, " + deed, x.told(6), up);
+        due("14 rings, " + deed, x.told(7), rings);
+        due("14 audiences, " + deed, x.told(10), audiences);
+        due("14 held, " + deed, x.told(11), audiences);
+        due("14 seed, " + deed, x.seed(0), to);
     }
 
     private static void undo() {
@@ -499,6 +581,10 @@ public final class PromisesTest {
         due("21 three left", x.look(8, 0), 7);
         due("21 the lesser of like ones", x.look(8, 1), 1);
         due("21 none", Check.made("c1,1;d0 0 5;d0 0 5;").look(0, 1), NONE);
+        due("21 all signs", x.look(63, 0), 1);
+        due("21 the first sign", Check.made("c1,1;d0 0 5;d0 0 4;").look(63, 0), 0);
+        due("21 sign 0 parts", Check.made("c1,1;d0 0 5;d0 0 4;").look(2, 1), 0);
+        due("21 sign 5 parts", Check.made("c1,1;d0 0 32;d0 0 0;").look(0, 1), 5);
         due("21 signs above", x.look(64, 0), OUTSIDE);
         due("21 signs below", x.look(-1, 0), OUTSIDE);
         due("21 what above", x.look(0, 2), OUTSIDE);
@@ -530,7 +616,10 @@ public final class PromisesTest {
         due("23 below", x.agenda(-1, 0), OUTSIDE);
         due("23 without", new DollCongress().agenda(0, 1), NOT);
         due("23 outside ahead of not", new DollCongress().agenda(0, 0), OUTSIDE);
-        due("23 like votes: the lesser", Check.made("c1,1;").agenda(2, 1), 0);
+        due("23 0 is liked by both", Check.made("c1,1;").agenda(2, 1), 0);
+        // Courts 0 and 1 like 0 over 1, courts 2 and 3 like 1 over 0; both have 5 votes; 2 is behind both.
+        due("23 like votes: the lesser", Check.made("c4,1,4,1;").agenda(1, 0), 0);
+        due("24 like votes: none for the other", Check.made("c4,1,4,1;").agendaFor(2), NONE);
         due("23 court 6 likes as court 0", Check.made("c1,1,1,1,1,3,3;").agenda(0, 2), 0);
         due("23 court 5", Check.made("c1,1,1,1,1,9,1;").agenda(0, 1), 2);
     }
@@ -633,6 +722,11 @@ public final class PromisesTest {
         due("28 unknown ahead of full", x.write(5, 0), UNKNOWN);
         due("29 had", x.tear(), 15);
         due("29 has none", x.tear(), 0);
+        for (int i = 0; i < 15; i++) {
+            x.write(3, 3);
+        }
+        due("30 full and right", x.judge(), NONE);
+        due("29 full", x.tear(), 15);
         due("30 torn", x.judge(), NONE);
         due("28 again", x.write(3, 0), 1);
         due("30 again", x.judge(), 0);
