@@ -605,7 +605,8 @@ public final class DollCongress {
 
         /** The winner of the agenda that begins with things a and b. */
         int winnerFrom(int a, int b) {
-            int third = THINGS - a - b;
+            // Things 0, 1, 2 are 3 together.
+            int third = 3 - a - b;
             return winnerOf(winnerOf(a, b), third);
         }
 
