@@ -1113,8 +1113,8 @@ public final class DollCongress {
             int all = (1 << count) - 1;
             int least = NONE;
             for (int set = 1; set <= all; set++) {
-                boolean isRing = surplus[set] == 0 && rings[set] == 1;
-                if (isRing && rings[all ^ set] + 1 == rings[all]) {
+                // Where the others close all rings but one, this set is that one ring.
+                if (surplus[set] == 0 && rings[all ^ set] + 1 == rings[all]) {
                     int pair = leastPair(set);
                     least = least == NONE ? pair : Math.min(least, pair);
                 }
