@@ -577,7 +577,21 @@ public final class DollBoundsTest {
         doc.due("from 8999 to 9059", x.year(60), 9059);
         // 6 of its years ended below 20.
         doc.due("tears of 9059 years", x.doll(1, TEARS), 9053);
+        mostTears(x);
+        doc.says("FULL: YEARS are above 9000.");
         doc.due("a new congress has years again", Check.tell(x, "c1,1;"), 0);
         doc.due("year(1)", x.year(1), 1);
+    }
+
+    /** No run of calls comes to more: years end at 9060. */
+    private static void mostTears(DollCongress x) {
+        doc.says("(999999 at most)");
+        x.undo();
+        x.year(1);
+        x.year(60);
+        doc.due("years", x.told(5), 9060);
+        doc.due("tears of 9060 years", x.doll(1, TEARS), 9054);
+        doc.due("a year more", x.year(1), FULL);
+        doc.due("tears", x.doll(1, TEARS), 9054);
     }
 }

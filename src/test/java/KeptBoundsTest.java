@@ -1,4 +1,5 @@
 import java.math.BigInteger;
+import java.util.Arrays;
 
 /** What is kept: the congress, the book, the seed, what can be undone, images; promises 3, 4, 14, 15 and 28 to 33. */
 public final class KeptBoundsTest {
@@ -11,6 +12,7 @@ public final class KeptBoundsTest {
 
     public static void main(String[] args) {
         becomesTheCongress();
+        oneBehindTheOther();
         textIsEmptyThen();
         faultLeavesAll();
         faultIsOfTheLatest();
@@ -19,6 +21,7 @@ public final class KeptBoundsTest {
         bookTorn();
         seedBounds();
         drawsLeftOver();
+        drawIsLeftOver();
         drawsOfDolls();
         postedByDraws();
         mixedByDraws();
@@ -47,12 +50,14 @@ public final class KeptBoundsTest {
         x.keep(0);
         x.keep(1);
         x.lay(0, false);
+        x.lay(1, false);
         x.mask(2, 9);
         x.audience();
         x.write(0, 1);
         x.write(2, 3);
         x.year(9);
         x.seed(77);
+        doc.due("the treaty held", x.told(11), 1);
         return x;
     }
 
@@ -86,6 +91,37 @@ public final class KeptBoundsTest {
         }
     }
 
+    /** Of congresses one behind the other each has what its own text told, and nothing of any earlier one. */
+    private static void oneBehindTheOther() {
+        doc.says("THE TEXT (it is empty then, with a FAULT, too) becomes THE CONGRESS");
+        DollCongress x = new DollCongress();
+        for (int round = 1; round <= 4; round++) {
+            doc.due("all told", Check.tell(x, "c9,8,7;d3 2 60;d2 1 61;s" + round + ";q" + (10 + round) + ";"), 2);
+            congressIs(x, 3, round, 10 + round);
+            doc.due("all told at once again", Check.tell(x, "c9,8,7;q" + round + ";s" + (20 + round) + ";"), 0);
+            congressIs(x, 3, 20 + round, round);
+            for (int times = 0; times < 2; times++) {
+                doc.due("courts alone", Check.tell(x, "c1,2;"), 0);
+                congressIs(x, 2, 0, 2);
+                doc.due("no such doll any more", x.doll(0, 0), UNKNOWN);
+                doc.due("no such court any more", x.court(2, 0), UNKNOWN);
+            }
+            if (round % 2 == 0) {
+                doc.due("all told once more", Check.tell(x, "c9,9;s5;q9;"), 0);
+            }
+            doc.due("no congress", x.congress(), 0);
+            congressIs(x, 0, 0, 0);
+            doc.due("no congress twice", x.congress(), 0);
+            congressIs(x, 0, 0, 0);
+        }
+    }
+
+    private static void congressIs(DollCongress x, int courts, int pattern, int quota) {
+        doc.due("courts", x.told(0), courts);
+        doc.due("pattern", x.told(3), pattern);
+        doc.due("quota", x.told(4), quota);
+    }
+
     private static void textIsEmptyThen() {
         doc.says("THE TEXT (it is empty then, with a FAULT, too)");
         DollCongress x = new DollCongress();
@@ -113,16 +149,17 @@ public final class KeptBoundsTest {
             doc.due("pattern", x.told(3), 7);
             doc.due("quota", x.told(4), 5);
             doc.due("years", x.told(5), 17);
-            doc.due("up", x.told(6), 5);
+            doc.due("up", x.told(6), 7);
             doc.due("rings", x.told(7), 3);
             doc.due("audiences", x.told(10), 1);
+            doc.due("held", x.told(11), 1);
             doc.due("book", x.told(15), 2);
-            doc.due("undone", x.told(16), 4);
+            doc.due("undone", x.told(16), 5);
             doc.due("signs", x.doll(2, 3), 9);
-            doc.due("tears", x.doll(1, 6), 2);
+            doc.due("tears", x.doll(1, 6), 11);
             doc.due("power", x.court(0, 4), 10);
             doc.due("seed", x.seed(78), 77);
-            doc.due("undo()", x.undo(), 3);
+            doc.due("undo()", x.undo(), 4);
             doc.due("years", x.told(5), 8);
             doc.due("image 1", x.goBack(1), 1);
             doc.due("image 0", x.goBack(0), 1);
@@ -270,6 +307,27 @@ public final class KeptBoundsTest {
             int first = drawn(seed), second = drawn(first), third = drawn(second);
             doc.due("seed from " + seed, x.seed(0), draw(first, 5) < 2 ? third : second);
         }
+    }
+
+    /** A draw of 7 courts, 8 dolls: what is left over is never the number itself, and each of the others comes. */
+    private static void drawIsLeftOver() {
+        doc.says("the DRAW of n is it / 65536, left over by n");
+        int[] seenCourts = new int[7], seenDolls = new int[8];
+        for (int seed = 0; seed < 600; seed++) {
+            int first = drawn(seed), second = drawn(first), third = drawn(second);
+            if (draw(first, 5) == 0) {
+                DollCongress x = Check.made("c1,1,1,1,1,1,1;" + "d0 3 0;".repeat(8));
+                x.seed(seed);
+                x.drift(1);
+                int d = draw(second, 8), c = draw(third, 7);
+                doc.due("doll " + d + " from " + seed, x.told(7), c == 3 ? 0 : 1 << d);
+                doc.due("court from " + seed, x.doll(d, 2), c);
+                seenDolls[d] = 1;
+                seenCourts[c] = 1;
+            }
+        }
+        doc.due("dolls that were drawn", Arrays.stream(seenDolls).sum(), 8);
+        doc.due("courts that were drawn", Arrays.stream(seenCourts).sum(), 7);
     }
 
     private static void drawsOfDolls() {
@@ -471,7 +529,7 @@ public final class KeptBoundsTest {
                 default -> x.drift(60);
             }
             doc.due("deed " + deed + " can be undone", x.told(16), had + 1);
-            doc.due("deed " + deed + " changed something", java.util.Arrays.equals(before, seen(x)) ? 1 : 0, 0);
+            doc.due("deed " + deed + " changed something", Arrays.equals(before, seen(x)) ? 1 : 0, 0);
             doc.due("undo() of deed " + deed, x.undo(), had);
             int[] after = seen(x);
             for (int i = 0; i < before.length; i++) {

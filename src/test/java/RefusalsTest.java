@@ -31,6 +31,11 @@ public final class RefusalsTest {
     }
 
     public static void main(String[] args) {
+        constants();
+        unknownFirst();
+        outsideNext();
+        fullLast();
+        lastCall();
         for (State state : State.values()) {
             doc.says("What is refused changes nothing.");
             for (Asked asked : refused(state)) {
@@ -42,6 +47,80 @@ public final class RefusalsTest {
             }
         }
         doc.end();
+    }
+
+    // ---- the order of refusals
+
+    private static void constants() {
+        doc.says("They are far below all that is counted: -1000000001 and on.");
+        doc.due("UNKNOWN", UNKNOWN, -1000000001);
+        doc.due("OUTSIDE", OUTSIDE, -1000000002);
+        doc.due("NOT", NOT, -1000000003);
+        doc.due("FULL", FULL, -1000000004);
+        doc.says("NONE is -1.");
+        doc.due("NONE", NONE, -1);
+    }
+
+    private static void unknownFirst() {
+        doc.says("REFUSALS, of several the first in this order: UNKNOWN");
+        DollCongress x = at(State.LIVED);
+        doc.due("no doll, no such part", x.doll(4, 7), UNKNOWN);
+        doc.due("no court, no such part", x.court(4, 5), UNKNOWN);
+        doc.due("no doll, signs outside", x.mask(4, 64), UNKNOWN);
+        doc.due("no doll, years outside", x.warm(4, 101), UNKNOWN);
+        doc.due("no doll, warm outside", x.first(4, 100), UNKNOWN);
+        doc.due("no court, years outside", x.know(4, 21), UNKNOWN);
+        doc.due("no image, none is kept", at(State.NEW).goBack(2), UNKNOWN);
+        doc.due("no doll, the book is full", at(State.OLD).write(2, 0), UNKNOWN);
+        doc.due("no court, the book is full", at(State.OLD).write(0, 2), UNKNOWN);
+        doc.due("bits of no court, no congress", at(State.NEW).agreed(1), UNKNOWN);
+        doc.says("a COURT, DOLL, SIGN, IMAGE that there is not; bits of such");
+        doc.due("doll", x.lay(4, true), UNKNOWN);
+        doc.due("court", x.wanted(4), UNKNOWN);
+        doc.due("image", x.keep(2), UNKNOWN);
+        doc.due("bits of courts", x.agreed(16), UNKNOWN);
+        doc.due("bits of courts with others", x.agreed(31), UNKNOWN);
+        doc.due("bits of courts, below 0", x.agreed(-16), UNKNOWN);
+    }
+
+    private static void outsideNext() {
+        doc.says("OUTSIDE (another number out of its bounds), NOT (not now, as told)");
+        for (State state : new State[] {State.NEW, State.FAULTY}) {
+            DollCongress x = at(state);
+            doc.due("year(0), no congress", x.year(0), OUTSIDE);
+            doc.due("year(61), no congress", x.year(61), OUTSIDE);
+            doc.due("drift(0), no congress", x.drift(0), OUTSIDE);
+            doc.due("drift(61), no congress", x.drift(61), OUTSIDE);
+            doc.due("agenda(0, 3), no congress", x.agenda(0, 3), OUTSIDE);
+            doc.due("agenda(1, 1), no congress", x.agenda(1, 1), OUTSIDE);
+            doc.due("agendaFor(-1), no congress", x.agendaFor(-1), OUTSIDE);
+        }
+    }
+
+    private static void fullLast() {
+        doc.says("NOT (not now, as told), FULL");
+        DollCongress x = at(State.OLD);
+        doc.due("year(61) at 9001", x.year(61), OUTSIDE);
+        doc.due("drift(0) at 9001", x.drift(0), OUTSIDE);
+        doc.due("year(60) at 9001", x.year(60), FULL);
+        doc.due("post to where it is, at 9001", x.post(1, 0), NOT);
+        x = at(State.FULL_TEXT);
+        doc.due("feed(256), 240 letters", x.feed(256), OUTSIDE);
+        doc.due("feed(-1), 240 letters", x.feed(-1), OUTSIDE);
+        doc.due("feed(255), 240 letters", x.feed(255), FULL);
+    }
+
+    private static void lastCall() {
+        doc.says("An object is used for at most 512 calls after it has been made");
+        DollCongress x = new DollCongress();
+        String text = "c1,1;d0 0 0;";
+        feed(x, text);
+        x.congress();
+        int calls = text.length() + 1;
+        for (; calls < 511; calls++) {
+            doc.due("an audience", x.audience(), 0);
+        }
+        doc.due("the 512th", x.told(10), 511 - text.length() - 1);
     }
 
     // ---- states
